@@ -2,7 +2,7 @@
  * Exact helpers for floating-point numbers of 64 bits, worked out on their bits alone.
  *
  * A finite amount is handled throughout as significand * 2^power, both whole numbers. A significand
- * has at most 53 bits and a power is at least -1074, so that every step fits into a long.
+ * has at most 53 bits, so that every step, with the few bits it needs more, fits into a long.
  */
 public final class BinaryFunctions {
     private static final int REGISTERS = 8;
@@ -23,6 +23,11 @@ public final class BinaryFunctions {
     private static final int INFINITE = 3;
     private static final int NAN = 4;
     private static final int NEGATIVE = 8;
+
+    private static final int EXPONENT_OF_ZERO = -2147483648;
+    private static final int EXPONENT_BEYOND = 2147483647;
+    private static final int NOT_COMPARABLE = 2;
+    private static final int NO_SORT = -1;
 
     private static final long SIGN_BIT = 0x8000000000000000L;
     private static final long AMOUNT_BITS = 0x7FFFFFFFFFFFFFFFL;
@@ -45,8 +50,8 @@ public final class BinaryFunctions {
     /** One bit more than a significand has: the last one tells how to round. */
     private static final int ROOT_BITS = 54;
 
-    /** What is left by a divisor of up to 54 bits still fits into a long when shifted by this much. */
-    private static final int DIVISION_STEP = 9;
+    /** What is left by a significand, of 53 bits at most, fits into a long when shifted by this much. */
+    private static final int DIVISION_STEP = 10;
 
     private final long[] registers;
     private int raised;
@@ -120,17 +125,17 @@ public final class BinaryFunctions {
         }
         long x = registers[r];
         if (isZero(x)) {
-            return Integer.MIN_VALUE;
+            return EXPONENT_OF_ZERO;
         }
         if (isInfinity(x) || isNan(x)) {
-            return Integer.MAX_VALUE;
+            return EXPONENT_BEYOND;
         }
         return fullPower(x) + F_WIDTH;
     }
 
     public int compare(int a, int b) {
         if (!isRegister(a) || !isRegister(b) || isNan(registers[a]) || isNan(registers[b])) {
-            return 2;
+            return NOT_COMPARABLE;
         }
         long placeOfA = place(registers[a]);
         long placeOfB = place(registers[b]);
@@ -142,7 +147,7 @@ public final class BinaryFunctions {
 
     public int sort(int r) {
         if (!isRegister(r)) {
-            return -1;
+            return NO_SORT;
         }
         long x = registers[r];
         return x < 0 ? sortOfAmount(x) + NEGATIVE : sortOfAmount(x);
@@ -334,7 +339,8 @@ public final class BinaryFunctions {
     private long remainderOfFinite(long x, long y, int distance, boolean near) {
         long divisor = significand(y) << Math.max(-distance, 0);
         int power = Math.min(power(x), power(y));
-        // Of n only the last bits are asked for, so those that go beyond a long may be lost.
+        // Of n only the last bits are asked for, so those that go beyond a long may be lost. The loop
+        // runs only with a distance above 0, when the divisor is the significand of y as it is.
         long n = significand(x) / divisor;
         long rest = significand(x) % divisor;
         for (int open = distance; open > 0; open -= DIVISION_STEP) {

@@ -2,6 +2,7 @@ import java.lang.reflect.Constructor;
 import java.lang.reflect.Field;
 import java.lang.reflect.Method;
 import java.lang.reflect.Modifier;
+import java.util.List;
 import java.util.TreeSet;
 
 /** The face of the class is that of the document, with no other visible member (LANGUAGE.md, rules 1 and 5). */
@@ -48,7 +49,7 @@ public final class FaceTest {
                 names.add(method.getName());
             }
         }
-        Check.due("visible methods", visible.toString(), new TreeSet<>(java.util.List.of(METHODS)).toString());
+        Check.due("visible methods", visible.toString(), new TreeSet<>(List.of(METHODS)).toString());
         for (Method method : BinaryFunctions.class.getDeclaredMethods()) {
             boolean isPrivate = Modifier.isPrivate(method.getModifiers());
             Check.due("private method named as a public one: " + method, isPrivate && names.contains(method.getName()), false);

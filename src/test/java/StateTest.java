@@ -116,11 +116,11 @@ public final class StateTest {
         x.neighbour(4, 0, 1);
         x.scale(4, 3, 50);
         x.load(4, twin.bits(4));
-        Check.due("state after calls into register 4", Check.state(x), used(twin));
+        Check.due("state after calls into register 4", Check.state(x), withOverflow(twin));
     }
 
     /** The scaling in onlyTheResultChanges adds OVERFLOW, and nothing else may differ. */
-    private static String used(BinaryFunctions twin) {
+    private static String withOverflow(BinaryFunctions twin) {
         return Check.state(twin).replace("flags 2", "flags 6");
     }
 
