@@ -2,12 +2,21 @@ import java.math.BigDecimal;
 import java.math.BigInteger;
 
 /**
- * Promises 4 to 12 on many patterns, beside what Java's own doubles and exact big numbers answer.
- * The patterns come from a fixed formula, so that every run is the same.
+ * Promises 4 to 12 on many patterns, beside what Java's own doubles and exact big numbers answer: all
+ * pairs of patterns at the edges of E and F, and others from a fixed formula, so that every run is the
+ * same.
  */
 public final class AgainstJavaTest {
     private static final int ROUNDS = 60_000;
     private static final BigDecimal TWO = BigDecimal.valueOf(2);
+
+    /** At both ends, round the width of F, round the value 1, and where the last bit of F counts 1. */
+    private static final int[] EDGES_OF_E = {0, 1, 2, 3, 52, 53, 54, 1021, 1022, 1023, 1024, 1074, 1075, 1076,
+        2044, 2045, 2046, 2047};
+    private static final long[] EDGES_OF_F = {0, 1, 2, 3, (1L << 51) - 1, 1L << 51, (1L << 51) + 1,
+        (1L << 52) - 2, (1L << 52) - 1};
+    private static final int[] EDGES_OF_N = {0, 1, 2, 51, 52, 53, 54, 1021, 1022, 1023, 1024, 1073, 1074, 1075, 1076,
+        2044, 2045, 2046, 2047, 2096, 2097, 2098, 2099, 2100, Integer.MAX_VALUE - 1, Integer.MAX_VALUE};
 
     private static long seed = 20261115L;
 
@@ -15,6 +24,42 @@ public final class AgainstJavaTest {
     }
 
     public static void main(String[] args) {
+        edges();
+        fromFormula();
+        Check.finish("AgainstJavaTest");
+    }
+
+    private static void edges() {
+        long[] patterns = edgePatterns();
+        for (long x : patterns) {
+            sqrt(x);
+            whole(x);
+            for (int n : EDGES_OF_N) {
+                scale(x, n);
+                scale(x, -n);
+            }
+            scale(x, Integer.MIN_VALUE);
+            for (long y : patterns) {
+                left(x, y);
+                neighbour(x, y);
+                reading(x, y);
+            }
+        }
+    }
+
+    private static long[] edgePatterns() {
+        long[] patterns = new long[2 * EDGES_OF_E.length * EDGES_OF_F.length];
+        int count = 0;
+        for (int e : EDGES_OF_E) {
+            for (long f : EDGES_OF_F) {
+                patterns[count++] = ((long) e << 52) + f;
+                patterns[count++] = Check.MINUS | ((long) e << 52) + f;
+            }
+        }
+        return patterns;
+    }
+
+    private static void fromFormula() {
         for (int i = 0; i < ROUNDS; i++) {
             long x = pattern();
             long y = i % 3 == 0 ? pattern() : near(x);
@@ -26,7 +71,6 @@ public final class AgainstJavaTest {
             scale(x, power());
             reading(x, y);
         }
-        Check.finish("AgainstJavaTest");
     }
 
     private static long next() {
@@ -86,10 +130,6 @@ public final class AgainstJavaTest {
         return Double.isFinite(value(x));
     }
 
-    private static long bitsOf(double value) {
-        return Double.isNaN(value) ? Check.THE_NAN : Check.of(value);
-    }
-
     private static boolean same(BigDecimal a, BigDecimal b) {
         return a.compareTo(b) == 0;
     }
@@ -109,7 +149,7 @@ public final class AgainstJavaTest {
         } else if (Double.isFinite(root) && !same(new BigDecimal(root).pow(2), new BigDecimal(value(x)))) {
             flags = Check.INEXACT;
         }
-        outcome("sqrt of " + x, object, bitsOf(root), flags);
+        outcome("sqrt of " + x, object, Check.result(root), flags);
     }
 
     private static void whole(long x) {
@@ -119,7 +159,7 @@ public final class AgainstJavaTest {
             BinaryFunctions object = Check.with(x, 0);
             object.whole(2, 0, how);
             int flags = how == 0 && finite(x) && wants[0] != v ? Check.INEXACT : 0;
-            outcome("whole of " + x + " how " + how, object, bitsOf(wants[how]), flags);
+            outcome("whole of " + x + " how " + how, object, Check.result(wants[how]), flags);
         }
     }
 
@@ -148,7 +188,7 @@ public final class AgainstJavaTest {
             BinaryFunctions object = Check.with(x, y);
             object.left(2, 0, 1, near);
             String call = "left of " + x + " by " + y + " near " + near;
-            outcome(call, object, bitsOf(near ? Math.IEEEremainder(a, b) : a % b), invalid ? Check.INVALID : 0);
+            outcome(call, object, Check.result(near ? Math.IEEEremainder(a, b) : a % b), invalid ? Check.INVALID : 0);
             Check.due("quotient after " + call, object.quotient(), lastBits(x, y, near));
         }
     }
@@ -156,7 +196,7 @@ public final class AgainstJavaTest {
     private static void neighbour(long x, long y) {
         BinaryFunctions object = Check.with(x, y);
         object.neighbour(2, 0, 1);
-        long want = value(x) == value(y) ? x : bitsOf(Math.nextAfter(value(x), value(y)));
+        long want = value(x) == value(y) ? x : Check.result(Math.nextAfter(value(x), value(y)));
         outcome("neighbour of " + x + " towards " + y, object, want, 0);
     }
 
@@ -170,7 +210,7 @@ public final class AgainstJavaTest {
         } else if (finite(x) && !sameScaled(x, n, want)) {
             flags = Math.abs(want) < Double.MIN_NORMAL ? Check.INEXACT | Check.UNDERFLOW : Check.INEXACT;
         }
-        outcome("scale of " + x + " by " + n, object, bitsOf(want), flags);
+        outcome("scale of " + x + " by " + n, object, Check.result(want), flags);
     }
 
     private static boolean sameScaled(long x, int n, double scaled) {
